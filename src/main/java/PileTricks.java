@@ -496,8 +496,6 @@ public final class PileTricks {
         private static final int WORD = 1;
         private static final int NUMBER = 2;
         private static final int SIGN = 3;
-        private static final int NO_TOKEN = 4;
-        private static final String SIGNS = ";()+-*/<=";
         private static final int MOST_DIGITS = 4;
 
         private final byte[] bytes = new byte[MOST_BYTES];
@@ -540,7 +538,10 @@ public final class PileTricks {
             } else if (isDigit(byteAt(start))) {
                 takeNumber();
             } else {
-                takeSign();
+                // A byte that is no token goes as a sign that can stand nowhere: the fault is the same.
+                type = SIGN;
+                sign = byteAt(start);
+                next++;
             }
         }
 
@@ -566,18 +567,8 @@ public final class PileTricks {
             }
         }
 
-        private void takeSign() {
-            sign = byteAt(start);
-            type = sign >= 0 && SIGNS.indexOf((char) sign) >= 0 ? SIGN : NO_TOKEN;
-            next++;
-        }
-
         private boolean isLongNumber() {
             return type == NUMBER && next - start > MOST_DIGITS;
-        }
-
-        private boolean isSignOf(char wanted) {
-            return type == SIGN && sign == wanted;
         }
 
         private boolean isSpelled(String spelled) {
@@ -701,7 +692,7 @@ public final class PileTricks {
         }
 
         private int readLineEnd() {
-            if (!tape.isSignOf(';')) {
+            if (tape.sign != ';') {
                 return MISPLACED;
             }
             tape.advance();
@@ -757,7 +748,6 @@ public final class PileTricks {
         private int waits = 0;
         private int depth = 0;
         private int nots = 0;
-        private boolean first = true;
         private boolean notMayStand = true;
         private boolean partIsDue = true;
         private boolean closed = false;
@@ -786,7 +776,6 @@ public final class PileTricks {
         }
 
         private void openExpr() {
-            first = true;
             setCompared(false);
             openNot();
         }
@@ -798,14 +787,13 @@ public final class PileTricks {
         }
 
         private int readPart() {
-            boolean opens = tape.isSignOf('(');
+            boolean opens = tape.sign == '(';
             if (!opens && tape.type != Tape.NUMBER && tape.type != Tape.WORD) {
                 return MISPLACED;
             }
-            if (first && depth >= MOST_DEPTH) {
+            if (depth >= MOST_DEPTH) {
                 return TOO_MUCH;
             }
-            first = false;
             if (opens) {
                 await(OPEN);
                 depth++;
@@ -846,10 +834,10 @@ public final class PileTricks {
         }
 
         private int readBehindPart() {
-            if (tape.isSignOf(';')) {
+            if (tape.sign == ';') {
                 return closeRule();
             }
-            if (tape.isSignOf(')')) {
+            if (tape.sign == ')') {
                 return closeExpr();
             }
             int operator = operatorThere();
@@ -899,7 +887,7 @@ public final class PileTricks {
             if (tape.word == Word.AND) {
                 return AND;
             }
-            switch (tape.type == Tape.SIGN ? tape.sign : 0) {
+            switch (tape.sign) {
                 case '<': return LESS;
                 case '=': return EQUAL;
                 case '+': return PLUS;
@@ -1153,20 +1141,18 @@ public final class PileTricks {
 
         /** Lays the heap that is named, and right below it a second one that may be the same. */
         private void lay(int laying, int named, int second) {
-            int others = named == second ? heaps - 1 : heaps - 2;
-            int ahead = Math.min(laying, others);
             int above = 0;
             int laid = 0;
             for (int heap = 0; heap < heaps; heap++) {
                 if (heap != named && heap != second) {
-                    if (laid == ahead) {
+                    if (laid == laying) {
                         above = layNamed(above, named, second);
                     }
                     above = layHeap(above, heap);
                     laid++;
                 }
             }
-            if (laid <= ahead) {
+            if (laid <= laying) {
                 layNamed(above, named, second);
             }
         }

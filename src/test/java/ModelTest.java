@@ -6,6 +6,7 @@ public final class ModelTest {
     private static final int TEXT_RUNS = 6000;
     private static final int RUNS = 250;
     private static final int CALLS = 160;
+    private static final int DEAR_RUNS = 60;
 
     private final Check check = new Check();
     private final Random random;
@@ -24,6 +25,9 @@ public final class ModelTest {
         test.texts();
         for (int run = 0; run < RUNS; run++) {
             test.run(run);
+        }
+        for (int run = 0; run < DEAR_RUNS; run++) {
+            test.dear();
         }
         test.check.close("ModelTest");
     }
@@ -81,6 +85,22 @@ public final class ModelTest {
             call();
         }
         look();
+    }
+
+    /** The calls that the model answers too slowly to be drawn often. */
+    private void dear() {
+        x = new PileTricks();
+        m = new Model();
+        read(texts.good());
+        int p = random.nextInt(m.count(0));
+        for (int i = 0; i <= 6; i++) {
+            int n = i;
+            both("worst " + n, () -> x.worst(n), () -> m.worst(n));
+            both("wished " + p + " " + n, () -> x.wished(p, n), () -> m.wished(p, n));
+            both("laying " + n, () -> x.laying(n), () -> m.laying(n));
+        }
+        both("fewest", () -> x.fewest(p), () -> m.fewest(p));
+        both("soonest", () -> x.soonest(), () -> m.soonest());
     }
 
     /** Mostly 0 to most, at times a little beside it, at times anything. */

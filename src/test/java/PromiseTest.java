@@ -176,6 +176,8 @@ public final class PromiseTest {
         text("12345;", 1, 0);
         text("Cards 5;", 1, 0);
         text("cardss 5;", 1, 0);
+        text("bards 5;", 1, 0);
+        text("cardt 5;", 1, 0);
         text("not;", 1, 0);
         text("cards\t5;", 1, 5);
         text("cards 5:", 1, 7);
@@ -420,6 +422,8 @@ public final class PromiseTest {
         check.due("soonest: never", -1, Check.told("deal run under at named;")::soonest);
         String idle = "deal run under at named;".repeat(7);
         check.due("soonest: late", 32, Check.told("cards 16;heaps 2;" + idle + "deal turn under at 0;")::soonest);
+        check.due("soonest: latest", 60, Check.told("cards 24;heaps 5;deal fro under at named+2;deal fro over at 4-named;"
+            + "deal fro under at (2-named)*2;deal fro over at named+2;")::soonest);
         check.due("soonest: too late", -1, Check.told("cards 60;heaps 2;" + idle.substring(24)
             + "deal fro over at named;deal run under at named;")::soonest);
     }
