@@ -4,9 +4,11 @@ import java.util.Random;
 /** Random runs of calls, each answered by the class and by the model; seeds are fixed. */
 public final class ModelTest {
     private static final int TEXT_RUNS = 6000;
-    private static final int RUNS = 250;
-    private static final int CALLS = 160;
+    private static final int RUNS = 350;
+    private static final int CALLS = 110;
     private static final int DEAR_RUNS = 60;
+    // Behind 512 calls an object's answers are free; see() and image() are not counted here.
+    private static final int MOST_CALLS = 450;
 
     private final Check check = new Check();
     private final Random random;
@@ -14,6 +16,7 @@ public final class ModelTest {
     private PileTricks x = new PileTricks();
     private Model m = new Model();
     private String text = "";
+    private int calls = 0;
 
     private ModelTest(long seed) {
         random = new Random(seed);
@@ -32,14 +35,24 @@ public final class ModelTest {
         test.check.close("ModelTest");
     }
 
+    private void start() {
+        x = new PileTricks();
+        m = new Model();
+        text = "";
+        calls = 0;
+    }
+
     private void both(String what, Check.Call ours, Check.Call theirs) {
+        calls++;
+        if (calls > MOST_CALLS) {
+            return;
+        }
         check.dueText("text '" + text + "' " + what, Check.outcome(theirs), ours);
     }
 
     private void texts() {
         for (int i = 0; i < TEXT_RUNS; i++) {
-            x = new PileTricks();
-            m = new Model();
+            start();
             read(texts.any());
             look();
         }
@@ -75,9 +88,7 @@ public final class ModelTest {
     }
 
     private void run(int run) {
-        x = new PileTricks();
-        m = new Model();
-        text = "";
+        start();
         if (run % 5 != 0) {
             read(texts.good());
         }
@@ -89,8 +100,7 @@ public final class ModelTest {
 
     /** The calls that the model answers too slowly to be drawn often. */
     private void dear() {
-        x = new PileTricks();
-        m = new Model();
+        start();
         read(texts.good());
         int p = random.nextInt(m.count(0));
         for (int i = 0; i <= 6; i++) {

@@ -581,7 +581,7 @@ public final class PromiseTest {
 
     // 19
     private void undo() {
-        PileTricks x = Check.told("cards 11;heaps 3;lies 1;");
+        PileTricks x = Check.told("cards 7;heaps 3;lies 1;");
         List<String> before = new ArrayList<>();
         for (int i = 0; i < 20; i++) {
             before.add(pack(x) + " / " + x.fits());
@@ -621,8 +621,8 @@ public final class PromiseTest {
 
     // 22, 23
     private void seeAndBetween() {
-        PileTricks x = Check.told("cards 7;heaps 3;");
         for (int code = 0; code < 648; code++) {
+            PileTricks x = Check.told("cards 7;heaps 3;");
             int kind = code / 216;
             int side = code / 36 % 6;
             int laying = code / 6 % 6;
