@@ -132,9 +132,12 @@ public final class BoundaryDealTest extends Boundaries {
             due("two(1, 12, 3)", one.two(1, 12, 3), () -> none.two(1, 12, 3));
             due("worst(2)", one.worst(2), () -> none.worst(2));
         }
-        PileTricks read = Check.told("cards 5;heaps 2;deal run under at 0;");
+        PileTricks read = Check.told("cards 5;heaps 2;" + "deal run under at 0;".repeat(8));
         Check.trick(read, "cards 5;heaps 2;");
-        dueRow("behind a text with deals", "3 1 4 2 0", () -> gone(read, 0, 0));
+        for (int i = 0; i < 8; i++) {
+            int deal = i;
+            dueRow("behind a text with deals, deal " + i, "3 1 4 2 0", () -> gone(read, deal, 0));
+        }
     }
 
     private void goesRefused() {
@@ -502,9 +505,12 @@ public final class BoundaryDealTest extends Boundaries {
         PileTricks fewer = Check.told("cards 6;heaps 6;deal turn under at 3;");
         due("6 heaps, laid 3, four others", 60 * 3 + 4, () -> fewer.two(0, 1, 1));
         of(15, "THE DEALS, for more of them than there are, go round");
-        PileTricks round = Check.told("cards 2;heaps 2;deal run under at 0;deal run under at named;");
-        due("deal by deal", 1, () -> round.two(1, 0, 1));
-        due("round", 1, () -> round.two(1, 0, 59));
+        PileTricks round = Check.told("cards 6;heaps 3;deal turn under at 1;deal run over at 0;deal fro under at 2;");
+        int[] after = {60 * 2 + 4, 60 * 2 + 5, 60 + 2};
+        for (int n = 1; n <= 60; n++) {
+            int deals = n;
+            due("two(0, 5, " + n + ")", after[n % 3], () -> round.two(0, 5, deals));
+        }
     }
 
     private void twoRefused() {
@@ -547,6 +553,13 @@ public final class BoundaryDealTest extends Boundaries {
                 due(lies + " lies, worst(" + n + ")", withLies[lies][n], () -> x.worst(deals));
             }
         }
+        worstByAnswers("cards 5;heaps 2;deal run under at 0;", 6);
+        worstByAnswers("cards 60;heaps 2;lies 2;deal turn over at named+1;deal fro under at 0;", 6);
+        worstByAnswers("cards 7;heaps 3;deal turn over at 1;deal fro under at named*2;", 5);
+        worstByAnswers("cards 20;heaps 3;lies 1;deal fro over at size;deal turn under at 0;deal run over at deal;", 5);
+        worstByAnswers("cards 5;heaps 4;deal fro under at 2;", 3);
+        worstByAnswers("cards 31;heaps 5;lies 2;deal fro over at named;deal turn over at 4;", 3);
+        worstByAnswers("cards 60;heaps 6;lies 1;deal turn under at named/2;deal run over at 5;", 3);
         of(16, "SPENT: HEAPS to the power of n are more than 5000.");
         for (int heaps = 2; heaps <= 6; heaps++) {
             PileTricks x = Check.told("cards 60;heaps " + heaps + ";deal run under at named;");
@@ -565,5 +578,30 @@ public final class BoundaryDealTest extends Boundaries {
         PileTricks x = Check.told(SMALL);
         x.answer(0, 0, 1, 0);
         dueUnchanged("whatever lies at the table", "5", x, () -> x.worst(1));
+    }
+
+    /** All rows of names given as answers at a table, dealt as told. */
+    private void worstByAnswers(String text, int mostDeals) {
+        PileTricks told = Check.told(text);
+        int heaps = told.count(1);
+        int dealsTold = told.count(2);
+        int rows = 1;
+        for (int n = 0; n <= mostDeals; n++) {
+            int most = 0;
+            for (int row = 0; row < rows; row++) {
+                PileTricks table = Check.told(text);
+                int names = row;
+                for (int i = 0; i < n; i++) {
+                    int deal = i % dealsTold;
+                    int named = names % heaps;
+                    table.answer(table.told(deal, named, 0), table.told(deal, named, 1), table.told(deal, named, 2), named);
+                    names /= heaps;
+                }
+                most = Math.max(most, table.count(6));
+            }
+            int deals = n;
+            due(text + " worst(" + n + ")", most, () -> Check.told(text).worst(deals));
+            rows *= heaps;
+        }
     }
 }

@@ -464,6 +464,21 @@ public final class BoundaryTableTest extends Boundaries {
         x.see();
         due("restore() of another one", 1, () -> x.restore() ? 1 : 0);
         dueRow("as it was then", second, () -> table(x));
+        PileTricks others = Check.told(SMALL);
+        others.answer(0, 0, 0, 1);
+        others.answer(1, 1, 1, 0);
+        String kept = table(others);
+        others.image();
+        others.undo();
+        others.undo();
+        others.answer(2, 0, 0, 1);
+        others.answer(0, 1, 1, 1);
+        others.answer(0, 1, 0, 1);
+        due("other answers given since", 1, () -> others.restore() ? 1 : 0);
+        dueRow("other answers given since: as they were", kept, () -> table(others));
+        due("other answers given since: undo()", 1, others::undo);
+        due("other answers given since: undo()", 0, others::undo);
+        dueRow("the answers of the image are undone", "0 1 2 3 4", () -> pack(others));
         PileTricks full = Check.told(SMALL);
         full.image();
         for (int i = 0; i < 20; i++) {

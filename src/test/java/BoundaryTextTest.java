@@ -135,7 +135,7 @@ public final class BoundaryTextTest extends Boundaries {
 
     private static PileTricks used() {
         PileTricks x = Check.told(SMALL);
-        x.wished(4, 3);
+        x.wished(4, 5);
         x.answer(0, 0, 0, 0);
         x.see();
         x.answer(1, 1, 1, 1);
@@ -158,6 +158,7 @@ public final class BoundaryTextTest extends Boundaries {
         of(3, "ANSWERS, what was found, the image are gone (STATUS stays).");
         PileTricks x = used();
         Check.trick(x, ";");
+        check.dueTrue("something was found", x.laying(4) >= 0);
         due("good", 0, () -> Check.trick(x, SMALL));
         due("answers: count(5)", 0, () -> x.count(5));
         due("answers: fits()", 31, x::fits);
@@ -201,6 +202,12 @@ public final class BoundaryTextTest extends Boundaries {
             Check.trick(x, "deal fro under at 2;");
             return state(x);
         });
+        for (String rule : new String[] {"not !", "not not !", "1+2*!", "((!", "1<!", "1<(1<1)+!", "not not not not not not !"}) {
+            PileTricks y = new PileTricks();
+            due("within a rule", 1, () -> Check.trick(y, "deal run over at 1;deal run over at " + rule));
+            due("the next rule is read as if alone", 0, () -> Check.trick(y, "deal run over at not not 2<5;"));
+            due("and worked out so", 1, () -> y.told(0, 0, 2));
+        }
         of(3, "STATUS: how many calls were refused: 0 of TEXTS with a FAULT, 1 of ANSWERS.");
         for (int i = 2; i <= 60; i++) {
             int texts = i;
@@ -291,6 +298,9 @@ public final class BoundaryTextTest extends Boundaries {
         of(3, "words (a .. z, the longest row)");
         good("cards9;heaps4;deal turn under at(1);");
         fault("cardss 9;", 1, 0);
+        fault("bards 9;", 1, 0);
+        fault("cardt 9;", 1, 0);
+        fault("card 9;", 1, 0);
         fault("card s 9;", 1, 0);
         fault("dealturn under at 1;", 1, 0);
         fault("deal turnunder at 1;", 1, 5);
@@ -363,6 +373,10 @@ public final class BoundaryTextTest extends Boundaries {
         goodRule("(1<1)<1");
         goodRule("1<(1<1)");
         ruleFault("1<(1<1)<1;", 1, 7);
+        for (int depth = 0; depth <= 5; depth++) {
+            ruleFault("(".repeat(depth) + "1<1=1;", 1, depth + 3);
+            goodRule("(".repeat(depth) + "1<1 and 1=1" + ")".repeat(depth));
+        }
         of(3, "'at' EXPR) ';'");
         fault("wish 1", 1, 6);
         fault("wish 1 lies 1;", 1, 7);
@@ -381,6 +395,12 @@ public final class BoundaryTextTest extends Boundaries {
         gives("7*5/10", 3);
         gives("2+3*4", 14);
         gives("20-6/4", 19);
+        gives("4<2+3", 1);
+        gives("6<9-3", 0);
+        gives("2+3<4", 0);
+        gives("3=1+1*2", 1);
+        gives("1+1*2=3", 1);
+        gives("9-4=8-3", 1);
         of(6, "ints that wrap");
         gives("9999*9999*9999", 9999 * 9999 * 9999);
         gives("8192*8192*32", LEAST);
@@ -445,15 +465,15 @@ public final class BoundaryTextTest extends Boundaries {
             due("deal " + deal, deal % 6, () -> x.told(deal, 0, 2));
         }
         of(6, "'wish', 'heaps', 'cards'");
-        PileTricks y = Check.told("deal run over at wish;deal run over at heaps-1;deal run over at cards;"
+        PileTricks y = Check.told("deal run over at wish;deal run over at heaps/2;deal run over at cards;"
             + "wish 59;heaps 5;cards 53;");
-        int[] values = {4, 4, 3};
+        int[] values = {4, 2, 3};
         for (int i = 0; i < 3; i++) {
             int deal = i;
             due("told behind the rule " + deal, values[deal], () -> y.told(deal, 0, 2));
         }
-        PileTricks z = Check.told("deal run over at wish+1;deal run over at heaps-1;deal run over at cards+2;");
-        int[] without = {1, 2, 2};
+        PileTricks z = Check.told("deal run over at wish+1;deal run over at heaps/2;deal run over at cards+2;");
+        int[] without = {1, 1, 2};
         for (int i = 0; i < 3; i++) {
             int deal = i;
             due("without " + deal, without[deal], () -> z.told(deal, 0, 2));
