@@ -126,10 +126,14 @@ public final class LanguageTest {
     /** No call makes objects: only a new object and an exception take room. */
     private void room() {
         com.sun.management.ThreadMXBean threads = (com.sun.management.ThreadMXBean) ManagementFactory.getThreadMXBean();
-        PileTricks x = Check.told("cards 60;heaps 4;lies 2;wish 7;deal fro over at (named+1)*size;deal run under at 2;");
-        calls(x);
+        // An object is used for at most 512 calls, so there are many, all made ahead of the measuring.
+        PileTricks[] all = new PileTricks[100];
+        for (int i = 0; i < all.length; i++) {
+            all[i] = Check.told("cards 60;heaps 4;lies 2;wish 7;deal fro over at (named+1)*size;deal run under at 2;");
+        }
+        calls(all[0]);
         long before = threads.getCurrentThreadAllocatedBytes();
-        for (int i = 0; i < 100; i++) {
+        for (PileTricks x : all) {
             calls(x);
         }
         long used = threads.getCurrentThreadAllocatedBytes() - before;
