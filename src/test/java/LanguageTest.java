@@ -16,19 +16,13 @@ import java.util.regex.Pattern;
 /** What of ../shared/LANGUAGE.md can be seen by a machine: the face, the sizes, words that may not stand. */
 public final class LanguageTest {
     private static final Path SOURCE = Path.of("src/main/java/PileTricks.java");
-    private static final Set<String> FACE = new TreeSet<>(List.of(
-        "int feed(int,int,int,int,int)", "int trick(int)", "int fault()", "int count(int)", "int told(int,int,int)",
-        "int goes(int,int,int)", "int end(int,int)", "int sure(int)", "int soonest()", "int wished(int,int)",
-        "int laying(int)", "int fewest(int)", "long always(int,int,int,int)", "int two(int,int,int)", "int worst(int)",
-        "int card(int)", "int answer(int,int,int,int)", "int undo()", "int lies(int)", "long fits()", "void see()",
-        "int between(int)", "int evenings(int,int,int)", "int weighings(int,boolean)", "void image()",
-        "boolean restore()"));
+    private static final Path DOCUMENT = Path.of("../shared/DOC.md");
 
     private final Check check = new Check();
 
     public static void main(String[] args) throws IOException {
         LanguageTest test = new LanguageTest();
-        test.face();
+        test.face(Files.readString(DOCUMENT));
         test.classes();
         test.words(Files.readString(SOURCE));
         test.lengths(Files.readAllLines(SOURCE));
@@ -36,18 +30,37 @@ public final class LanguageTest {
         test.check.close("LanguageTest");
     }
 
-    private void face() {
+    /** The methods of the face as the document writes them, without the names of what they take. */
+    private static Set<String> promised(String document) {
+        Set<String> face = new TreeSet<>();
+        Matcher methods = Pattern.compile("(?m)^    public (\\w+ \\w+)\\((.*)\\)( throws .*)?;$").matcher(document);
+        while (methods.find()) {
+            String types = methods.group(2).replaceAll("(\\w+) \\w+", "$1").replace(" ", "");
+            face.add(methods.group(1) + "(" + types + ")" + (methods.group(3) == null ? "" : methods.group(3)));
+        }
+        return face;
+    }
+
+    private static String written(Method method) {
+        List<String> types = Arrays.stream(method.getParameterTypes()).map(Class::getSimpleName).toList();
+        List<String> thrown = Arrays.stream(method.getExceptionTypes()).map(Class::getSimpleName).toList();
+        return method.getReturnType().getSimpleName() + " " + method.getName() + "(" + String.join(",", types) + ")"
+            + (thrown.isEmpty() ? "" : " throws " + String.join(", ", thrown));
+    }
+
+    private void face(String document) {
         Set<String> open = new TreeSet<>();
         Set<String> names = new TreeSet<>();
         for (Method method : PileTricks.class.getDeclaredMethods()) {
             if (!Modifier.isPrivate(method.getModifiers())) {
-                String types = String.join(",", Arrays.stream(method.getParameterTypes()).map(Class::getName).toList());
-                open.add(method.getReturnType().getName() + " " + method.getName() + "(" + types + ")");
+                open.add(written(method));
                 names.add(method.getName());
                 check.dueTrue(method + " is public", Modifier.isPublic(method.getModifiers()));
             }
         }
-        check.dueRow("the face", FACE.toString(), open::toString);
+        check.due("methods of the face", 26, () -> promised(document).size());
+        check.dueRow("the face", promised(document).toString(), open::toString);
+        check.due("NONE", -1, () -> PileTricks.NONE);
         for (Class<?> each : all()) {
             for (Method method : each.getDeclaredMethods()) {
                 boolean own = each == PileTricks.class && Modifier.isPublic(method.getModifiers());
